@@ -76,6 +76,7 @@ public final class JudgesTest extends Promise {
         due("no step 7", x.stepIs(7, 0), BEYOND);
         due("no what -1", x.stepIs(0, -1), BEYOND);
         due("no what 4", x.stepIs(0, 4), BEYOND);
+        Due.toldAre(x, 4, 0, 0, 0, 0, 0);
         x.person(999);
         int[] heard = {13, 15, 6, 26, 22, 5, 0};
         for (int i = 0; i < 7; i++) {
@@ -152,6 +153,7 @@ public final class JudgesTest extends Promise {
         due("nobody -1", x.personIs(-1, 0), BEYOND);
         due("what -1", x.personIs(0, -1), BEYOND);
         due("what 5", x.personIs(0, 5), BEYOND);
+        Due.toldAre(x, 4, 0, 0, 0, 0, 0);
     }
 
     private static void promise8() {
@@ -164,6 +166,7 @@ public final class JudgesTest extends Promise {
         due("nobody", x.rests(1, 5), BEYOND);
         due("nobody -1", x.rests(-1, 5), BEYOND);
         due("legs stay", x.personIs(0, 1), 0);
+        Due.toldAre(x, 4, 0, 0, 0, 0, 0);
     }
 
     private static void promise9() {
@@ -178,6 +181,7 @@ public final class JudgesTest extends Promise {
         due("nobody -1", x.carry(-1, 0), BEYOND);
         due("carry down", x.carry(0, 0), 3);
         due("legs stay", x.personIs(0, 1), 7);
+        Due.toldAre(x, 4, 0, 0, 0, 0, 0);
         due("falls stay", x.personIs(0, 3), 0);
     }
 
@@ -216,6 +220,7 @@ public final class JudgesTest extends Promise {
         due("no step -1", x.content(-1, 0), BEYOND);
         due("no word 100", x.content(0, 100), BEYOND);
         due("no word -1", x.content(0, -1), BEYOND);
+        Due.toldAre(x, 4, 0, 0, 0, 0, 0);
     }
 
     private static void promise10heeds() {

@@ -168,7 +168,7 @@ final class Model {
         }
     }
 
-    /** A TEXT's worth at a level (0 T .. 5 Q); -1 at the place of the FAULTS is not told: null is no TEXT. */
+    /** What a TEXT gives, read as what stands at a level (0 T .. 5 Q); null: it is none. */
     private static Integer worth(String text, String names, int[] by, int level, int open) {
         if (level == 5) {
             return worthOfLast(text, names, by, open);
@@ -240,7 +240,7 @@ final class Model {
     private final int[] bits = new int[4];
     private final int[] told = new int[7];
 
-    /** The answer to a call: its name's place among CALLS, and what it is called with. */
+    /** The answer to a call of that name with these numbers; word is what feed() has ahead of them. */
     long answer(String call, int[] a, long word) {
         try {
             return act(call, a, word);

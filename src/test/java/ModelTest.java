@@ -66,7 +66,8 @@ public final class ModelTest {
 
     private void draw(String name) {
         switch (name) {
-            case "step": case "become": call(name, steps(name), r(0, 69)); break;
+            case "step": call(name, r(0, 69)); break;
+            case "become": call(name, r(0, 19), r(0, 69)); break;
             case "stepIs": call(name, r(0, 19), r(0, 3)); break;
             case "as": call(name, r(0, 19), r(0, 6)); break;
             case "person": call(name, r(0, 999)); break;
@@ -135,11 +136,6 @@ public final class ModelTest {
 
     private int p() {
         return random.nextInt(3) == 0 ? r(0, 4) : r(0, 1);
-    }
-
-    /** What stands for the step in become; step itself has no such number. */
-    private int steps(String name) {
-        return name.equals("step") ? r(0, 69) : r(0, 19);
     }
 
     private int any() {

@@ -166,6 +166,9 @@ public final class SheetsTest extends Promise {
         due("carried 4", x.personIs(4, 0), 5);
         Due.sheet(x, 0, 32, -1, 2);
         due("below 0", x.carries(0), 0);
+        Due.sheet(x, 0, 8, 7);
+        due("one number", x.carries(0), 1);
+        due("none for the second", x.personIs(1, 0), 2);
         x.sheet(0, 8, 0);
         due("no numbers", x.carries(0), 0);
         due("missing", x.carries(1), NONE);

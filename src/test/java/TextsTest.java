@@ -115,6 +115,8 @@ public final class TextsTest extends Promise {
         fault(0, "(((((1)+!!1))))", 9);
         fault(0, "(((((1+!", 7);
         fault(0, "(((((", 5);
+        fault(0, "!!!!!", 5);
+        fault(0, "!!!!!)", 5);
     }
 
     private static void right(int use, String text) {

@@ -21,6 +21,9 @@ public final class ThoughtTest extends Promise {
             due("how many " + i, x.words(i, 0), many[i]);
             due("the least " + i, x.words(i, 1), least[i]);
         }
+        x.become(0, 0);
+        due("0 as the least", x.words(0, 1), 0);
+        x.become(0, 9);
         due("no step", x.words(7, 0), BEYOND);
         due("no step -1", x.words(-1, 1), BEYOND);
         due("what -1", x.words(0, -1), BEYOND);
@@ -95,6 +98,8 @@ public final class ThoughtTest extends Promise {
         are(y, 3, 0, 61, 62);
         y.become(2, 10);
         are(y, 2, 0, 61, -1);
+        Due.text(y, 0, "w=99|w=49&s=1");
+        are(y, 2, 49, 99, -1);
         Due.text(y, 0, "w>10");
         are(y, 2, 12, 46, -1);
     }

@@ -96,6 +96,9 @@ public final class VoicesTest extends Promise {
     private static void promise26wraps() {
         StairCourt x = Due.court(0, 0, 1);
         due("MIN by -1", x.voice(2, 3, MIN), MIN);
+        x.become(2, 3);
+        due("MIN by 1", x.voice(2, 3, MIN), MIN);
+        x.become(2, 1);
         due("MAX and 2", x.voice(2, 0, MAX), MIN + 1);
         due("twice", x.voice(2, 1, MAX), 2);
     }
