@@ -418,11 +418,8 @@ public final class StairCourt {
         if (judge == null || !within(voice, 0, VOICES - 1)) {
             return error(BEYOND);
         }
-        // Every KIND's parts comes to Judge's, no other VOICE does: asked ahead, so that THE TRACE stays.
-        if (voice == PARTS && judge.m == judge.place) {
-            return error(PARTED);
-        }
-        return voices.sound(judge, voice, x);
+        int answer = voices.sound(judge, voice, x);
+        return voices.parted ? error(PARTED) : answer;
     }
 
     public int body(int i) {
@@ -1070,6 +1067,8 @@ public final class StairCourt {
     /** The VOICES of one judge at a time, and THE TRACE of the latest. */
     private static final class Voices {
         int traced = 0;
+        /** Whether the latest VOICE PARTED; what it gave else counts for nothing then. */
+        boolean parted = false;
         private final int[] trace = new int[MOST_TRACED];
         private int kind = JUDGE;
         private int m = 0;
@@ -1077,6 +1076,7 @@ public final class StairCourt {
 
         int sound(Judge judge, int voice, int x) {
             traced = 0;
+            parted = false;
             kind = judge.kind;
             m = judge.m;
             place = judge.place;
@@ -1110,7 +1110,8 @@ public final class StairCourt {
         }
 
         private int begin(int body, int x, int depth) {
-            if (depth > DEEPEST_BODY) {
+            // PARTED is all that voice() answers: behind it no BODY begins any more.
+            if (parted || depth > DEEPEST_BODY) {
                 return 0;
             }
             note(body);
@@ -1134,7 +1135,11 @@ public final class StairCourt {
 
         private int part(int x) {
             int by = m - place;
-            return by == 0 ? 0 : x / by;
+            if (by == 0) {
+                parted = true;
+                return 0;
+            }
+            return x / by;
         }
 
         private void note(int body) {

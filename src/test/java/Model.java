@@ -558,11 +558,11 @@ final class Model {
                 Voice voice = voiceOf(judge[0]);
                 voice.k = a[0];
                 voice.m = judge[1];
-                int x = a[2];
-                long answer = a[1] == 0 ? voice.asks(x) : a[1] == 1 ? voice.nods(x)
-                        : a[1] == 2 ? voice.echoes(x) : voice.parts(x);
+                // Ahead of the VOICE: one that is refused as PARTED has begun its BODIES.
                 trace = voice.bodies;
-                return answer;
+                int x = a[2];
+                return a[1] == 0 ? voice.asks(x) : a[1] == 1 ? voice.nods(x)
+                        : a[1] == 2 ? voice.echoes(x) : voice.parts(x);
             }
             case "body":
                 ask(in(a[0], 0, trace.size() - 1), 2);

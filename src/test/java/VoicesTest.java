@@ -8,6 +8,7 @@ public final class VoicesTest extends Promise {
         promise26errors();
         promise26wraps();
         promise27();
+        promise27parted();
         Due.end("VoicesTest");
     }
 
@@ -20,11 +21,7 @@ public final class VoicesTest extends Promise {
         StairCourt c = one(kind);
         String call = "kind " + kind + ", voice " + voice;
         due(call, c.voice(3, voice, x), want);
-        due(call + ": bodies", c.count(5), bodies.length);
-        for (int i = 0; i < bodies.length; i++) {
-            due(call + ": body " + i, c.body(i), bodies[i]);
-        }
-        due(call + ": no more", c.body(bodies.length), NONE);
+        traceIs(c, call, bodies);
     }
 
     private static void asks() {
@@ -84,9 +81,6 @@ public final class VoicesTest extends Promise {
         due("no voice", x.voice(0, 4, 5), BEYOND);
         due("no voice -1", x.voice(0, -1, 5), BEYOND);
         Due.toldAre(x, 4, 0, 0, 0, 0, 7);
-        // One that answers an ERROR changes nothing but what told() tells.
-        due("THE TRACE stays", x.count(5), 3);
-        due("THE TRACE's first", x.body(0), 50);
         x.become(0, 5);
         due("not parted", x.voice(0, 3, 11), 2);
         due("number like an ERROR", x.voice(0, 0, BEYOND), BEYOND);
@@ -119,5 +113,40 @@ public final class VoicesTest extends Promise {
         due("the latest", x.body(0), 10);
         due("the latest alone", x.body(1), NONE);
         Due.toldAre(x, 0, 6, 0, 0, 0, 0);
+    }
+
+    /** The BODIES of a voice() that PARTED began, too; behind that none does. */
+    private static void promise27parted() {
+        StairCourt x = Due.court(0, 11, 22, 33, 44, 55, 66);
+        int[][] bodies = {{13}, {21, 13}, {13}, {13}, {21, 13}, {13}, {13}};
+        for (int i = 0; i < 7; i++) {
+            String call = "parted " + i;
+            due(call + ": longer ahead", x.voice(4, 2, 0), -4 ^ 4);
+            due(call + ": longer ahead, bodies", x.count(5), 6);
+            due(call, x.voice(i, 3, 5), PARTED);
+            traceIs(x, call, bodies[i]);
+        }
+        x.voice(4, 3, 5);
+        due("no step", x.voice(7, 0, 5), BEYOND);
+        due("no voice", x.voice(0, 4, 5), BEYOND);
+        traceIs(x, "BEYOND changes nothing", 21, 13);
+        due("not parted any more", x.voice(1, 0, 5), 2);
+        traceIs(x, "the latest one", 20, 10);
+        x.image();
+        due("parts without PARTED", x.become(1, 12), 1);
+        due("parts, STRICT", x.voice(1, 3, 5), 5 + (1 + 1 - 4) * 2);
+        traceIs(x, "parts, STRICT", 21, 13, 11, 20, 10);
+        x.become(1, 11);
+        x.voice(1, 3, 5);
+        x.restore();
+        traceIs(x, "no IMAGE holds THE TRACE", 21, 13);
+    }
+
+    private static void traceIs(StairCourt x, String call, int... bodies) {
+        due(call + ": bodies", x.count(5), bodies.length);
+        for (int i = 0; i < bodies.length; i++) {
+            due(call + ": body " + i, x.body(i), bodies[i]);
+        }
+        due(call + ": no more", x.body(bodies.length), NONE);
     }
 }
