@@ -324,16 +324,19 @@ public final class StairCourt {
         if (!row.holdsWordsAlone()) {
             return error(STATE);
         }
-        int before = one.falls;
         int said = 0;
+        // Counted apart from FALLS, which are held.
+        int fell = 0;
         while (said < row.length && thought.canGo(one)) {
-            thought.hear(one, row.get(said));
+            if (!thought.hear(one, row.get(said))) {
+                fell++;
+            }
             said++;
         }
         switch (what) {
             case 0: return one.at;
             case 1: return said;
-            default: return one.falls - before;
+            default: return fell;
         }
     }
 

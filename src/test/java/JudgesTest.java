@@ -276,13 +276,16 @@ public final class JudgesTest extends Promise {
         }
         due("FALLS of 9990 hours", x.personIs(0, 3), 9990);
         due("HEARD is held", x.stepIs(0, 2), 9999);
+        Due.sheet(x, 1, 8, new int[12]);
+        due("CLIMB over the bound of FALLS", x.climb(0, 1, 2), 12);
         for (int i = 0; i < 12; i++) {
             x.say(0, 0);
         }
         due("FALLS are held", x.personIs(0, 3), 9999);
         due("loose tells of them all the same", x.loose(2), 10);
         Due.sheet(x, 0, 8, 0, 0, 0);
-        due("CLIMB: FALLS are no more", x.climb(0, 0, 2), 0);
+        due("CLIMB tells of them all the same", x.climb(0, 0, 2), 3);
+        due("only thought", x.personIs(0, 3), 9999);
     }
 
     private static void promise12() {

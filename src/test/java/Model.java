@@ -437,14 +437,14 @@ final class Model {
                 }
                 Things c = t.copy();
                 int said = 0;
+                int contented = 0;
                 for (int w : row) {
                     if (c.canGo(a[0])) {
-                        c.say(a[0], w);
+                        contented += c.say(a[0], w) ? 1 : 0;
                         said++;
                     }
                 }
-                int[] one = c.people.get(a[0]);
-                return a[2] == 0 ? one[0] : a[2] == 1 ? said : one[3] - person(a[0])[3];
+                return a[2] == 0 ? c.people.get(a[0])[0] : a[2] == 1 ? said : said - contented;
             }
             case "fewest": {
                 int at = person(a[0])[0];
