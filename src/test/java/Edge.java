@@ -213,6 +213,36 @@ abstract class Edge extends Promise {
         };
     }
 
+    /** A judge who has HEARD so many words, all of them falls of five of PEOPLE; some 80 calls at the most. */
+    static Consumer<StairCourt> heard(int km, int words) {
+        return x -> {
+            x.step(km);
+            for (int i = 0; i < 5; i++) {
+                x.person(9);
+            }
+            Due.text(x, 0, "0");
+            int left = words;
+            for (; left >= 5; left -= 5 * Math.min(30, left / 5)) {
+                x.loose(Math.min(30, left / 5));
+            }
+            for (; left > 0; left--) {
+                x.say(0, 0);
+            }
+            x.untell(0);
+            x.rests(0, 9);
+        };
+    }
+
+    /** One with twenty LEGS who fell 9990 times, AT 0; more than 340 calls, which leave no room to look at all. */
+    static void fellOften(StairCourt x) {
+        x.step(39);
+        x.person(20);
+        Due.text(x, 0, "0");
+        for (int i = 0; i < 333; i++) {
+            x.loose(30);
+        }
+    }
+
     /** Judges, each of a KIND with a number, and one with nine LEGS AT the first of them. */
     static Consumer<StairCourt> judges(int... kms) {
         return x -> {

@@ -26,6 +26,8 @@ public final class EdgeImagesTest extends Edge {
         gives("33 image: the third", with(Edge::some, x -> x.image()), x -> x.image(), 3);
         // restore() leaves alone how often this was done, also behind one that was refused.
         gives("33 image: behind restore()", with(Edge::some, x -> x.restore()), x -> x.image(), 2);
+        gives("33 image: the third, behind restore() of no STEPS", with(Edge::nothing, x -> x.image() + x.image())
+                .andThen(x -> x.restore()), x -> x.image(), 3);
         gives("33 image: behind a refused restore()", with(Edge::nothing, x -> x.restore()), x -> x.image(), 1);
     }
 
@@ -70,10 +72,49 @@ public final class EdgeImagesTest extends Edge {
                 .andThen(x -> x.untell(1)).andThen(x -> x.restore());
         looks("34 restore: HEEDS again", untold, x -> x.law(0, 1, 0, 0), 0);
         looks("34 restore: BRIBE again", untold, x -> x.law(1, 5, 4, 0), 9);
+        promise34kept();
         looks("34 restore: z again", with(Edge::some, x -> x.image()).andThen(x -> x.seed(1)).andThen(x -> x.restore()),
                 x -> x.count(6), 77);
         looks("34 restore: what told() tells stays", with(Edge::some, x -> x.step(70)).andThen(x -> x.restore()),
                 x -> x.told(1), 2);
+    }
+
+    /** Each thing that an IMAGE holds is changed behind it, and is again as it was. */
+    private static void promise34kept() {
+        Consumer<StairCourt> state = with(Edge::some, x -> x.carry(0, 2)).andThen(x -> x.bribe(0))
+                .andThen(x -> x.say(0, 0)).andThen(x -> x.image()).andThen(x -> {
+                    x.say(0, 0);
+                    x.carry(0, 2);
+                    x.bribe(0);
+                    x.say(1, 99);
+                    x.text(1);
+                    Due.feed(x, "b+9");
+                    x.check();
+                    x.tell(6);
+                    x.tell(12);
+                    x.become(1, 69);
+                    x.person(7);
+                    x.step(0);
+                    x.hours(7);
+                }).andThen(x -> x.restore());
+        Consumer<StairCourt> ahead = with(Edge::some, x -> x.carry(0, 2)).andThen(x -> x.bribe(0)).andThen(x -> x.say(0, 0));
+        for (int person = 0; person < 3; person++) {
+            for (int what = 0; what <= 4; what++) {
+                int one = person;
+                int asked = what;
+                looks("34 restore: personIs " + one + ", " + what, state, x -> x.personIs(one, asked),
+                        made(ahead).personIs(one, asked));
+            }
+        }
+        for (int what = 0; what <= 3; what++) {
+            int asked = what;
+            looks("34 restore: stepIs 1, " + what, state, x -> x.stepIs(1, asked), made(ahead).stepIs(1, asked));
+        }
+        gives("34 restore: THE TAPE, as it was", state, x -> x.text(1), 1);
+        looks("34 restore: b+7 is on THE TAPE", with(state, x -> x.text(1)), x -> x.law(1, 0, 0, 0), 7);
+        gives("34 restore: the first number that waits", with(state, x -> x.rests(0, 8)), x -> x.check(), 0);
+        gives("34 restore: the second number that waits", with(state, x -> x.rests(0, 8)).andThen(x -> x.rests(1, 11)),
+                x -> x.check(), 2);
     }
 
     private static Consumer<StairCourt> waits(Consumer<StairCourt> state, int... numbers) {

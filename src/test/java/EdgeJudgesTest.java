@@ -258,7 +258,7 @@ public final class EdgeJudgesTest extends Edge {
         looks("10 MUTE by 0 HEARD", said(0, 0, 60), x -> x.content(0, 0), 1);
         looks("10 MUTE by 1 HEARD", said(0, 1, 60), x -> x.content(0, 0), 0);
         looks("10 MUTE by 2 HEARD", said(0, 2, 60), x -> x.content(0, 0), 1);
-        looks("10 MUTE by 9999 HEARD", EdgeJudgesTest::heardMost, x -> x.content(0, 0), 0);
+        looks("10 MUTE by 9999 HEARD", heard(60, 9999), x -> x.content(0, 0), 0);
     }
 
     private static void promise10heeds() {
@@ -314,41 +314,24 @@ public final class EdgeJudgesTest extends Edge {
         gives("11 say: not CONTENT as ahead of HEARD 2", with(said(0, 1, 60), x -> x.carry(0, 0)), x -> x.say(0, 0), 0);
     }
 
-    /** A MUTE who has HEARD 9998 words, and one AT 0 with 1 FALL less than he has HEARD in all from him. */
-    private static void heardNearlyMost(StairCourt x) {
-        x.step(60);
-        for (int i = 0; i < 5; i++) {
-            x.person(9);
-        }
-        Due.text(x, 0, "0");
-        for (int i = 0; i < 66; i++) {
-            x.loose(30);
-        }
-        x.loose(19);
-        for (int i = 0; i < 3; i++) {
-            x.say(0, 0);
-        }
-        x.untell(0);
-    }
-
-    private static void heardMost(StairCourt x) {
-        heardNearlyMost(x);
-        x.say(0, 0);
-        x.carry(0, 0);
-    }
-
     private static void promise11held() {
-        looks("11 HEARD: 9998", EdgeJudgesTest::heardNearlyMost, x -> x.stepIs(0, 2), 9998);
-        gives("11 HEARD: MUTE by 9998", EdgeJudgesTest::heardNearlyMost, x -> x.say(0, 0), 1);
-        looks("11 HEARD: 9999", EdgeJudgesTest::heardMost, x -> x.stepIs(0, 2), 9999);
-        looks("11 HEARD: WANTS by 9999", with(EdgeJudgesTest::heardMost, x -> x.become(0, 0)), x -> x.stepIs(0, 3), 19);
-        gives("11 HEARD: MUTE by 9999", EdgeJudgesTest::heardMost, x -> x.say(0, 0), 0);
-        Consumer<StairCourt> more = with(EdgeJudgesTest::heardMost, x -> x.say(0, 0));
+        looks("11 HEARD: 9998", heard(60, 9998), x -> x.stepIs(0, 2), 9998);
+        gives("11 HEARD: MUTE by 9998", heard(60, 9998), x -> x.say(0, 0), 1);
+        looks("11 HEARD: 9999", heard(60, 9999), x -> x.stepIs(0, 2), 9999);
+        looks("11 HEARD: WANTS by 9999", with(heard(60, 9999), x -> x.become(0, 0)), x -> x.stepIs(0, 3), 19);
+        gives("11 HEARD: MUTE by 9999", heard(60, 9999), x -> x.say(0, 0), 0);
+        Consumer<StairCourt> more = with(heard(60, 9999), x -> x.say(0, 0));
         looks("11 HEARD: held at 9999", more, x -> x.stepIs(0, 2), 9999);
         gives("11 HEARD: MUTE, held", more, x -> x.say(0, 0), 0);
         looks("11 HEARD: held at 9999 by loose", with(more, x -> x.loose(1)), x -> x.stepIs(0, 2), 9999);
-        // Too many calls to look at all behind them: 512 are promised.
-        StairCourt x = made(EdgeJudgesTest::fellNearlyMost);
+        promise11falls();
+    }
+
+    private static void promise11falls() {
+        StairCourt x = made(Edge::fellOften);
+        for (int i = 0; i < 8; i++) {
+            x.say(0, 0);
+        }
         due("11 FALLS: 9998", x.personIs(0, 3), 9998);
         due("11 FALLS: one more, AT", x.say(0, 0), 0);
         due("11 FALLS: 9999", x.personIs(0, 3), 9999);
@@ -356,19 +339,6 @@ public final class EdgeJudgesTest extends Edge {
         due("11 FALLS: held at 9999", x.personIs(0, 3), 9999);
         due("11 FALLS: held by loose, which tells of it", x.loose(1), 1);
         due("11 FALLS: held at 9999 by loose", x.personIs(0, 3), 9999);
-    }
-
-    /** 9990 HOURS of falling AT 0, and eight falls more. */
-    private static void fellNearlyMost(StairCourt x) {
-        x.step(39);
-        x.person(20);
-        Due.text(x, 0, "0");
-        for (int i = 0; i < 333; i++) {
-            x.loose(30);
-        }
-        for (int i = 0; i < 8; i++) {
-            x.say(0, 0);
-        }
     }
 
     /** PAID is held at 99999 too, which 512 calls of 99 at the most don't come to. */

@@ -46,22 +46,7 @@ public final class EdgeThoughtTest extends Edge {
         looks("20 words: no WORD is 100", heeds(judges(0), "w>99"), x -> x.words(0, 0), 0);
         looks("20 words: no WORD is -1", heeds(judges(0), "w<0"), x -> x.words(0, 0), 0);
         looks("20 words: the twentieth", heeds(with(steps(19), x -> x.step(50)), "1"), x -> x.words(19, 0), 71);
-        looks("20 words: MUTE by 9999 HEARD", EdgeThoughtTest::mute9999, x -> x.words(0, 0), 0);
-    }
-
-    /** A MUTE with 0 who has HEARD 9999 words, and one AT him with nine LEGS. */
-    private static void mute9999(StairCourt x) {
-        x.step(60);
-        for (int i = 0; i < 5; i++) {
-            x.person(9);
-        }
-        Due.text(x, 0, "0");
-        for (int i = 0; i < 66; i++) {
-            x.loose(30);
-        }
-        x.loose(20);
-        x.untell(0);
-        x.rests(0, 9);
+        looks("20 words: MUTE by 9999 HEARD", heard(60, 9999), x -> x.words(0, 0), 0);
     }
 
     private static void promise21() {
@@ -134,27 +119,14 @@ public final class EdgeThoughtTest extends Edge {
 
     /** What is held stays held within a CLIMB. */
     private static void promise21held() {
-        climbs("MUTE by 9999 HEARD, held", sheet(EdgeThoughtTest::mute9999, 8, 0, 0, 0), 0, 3, 3);
-        climbs("MUTE by 9998 HEARD", sheet(EdgeThoughtTest::mute9998, 8, 99, 99), 1, 1, 0);
-        climbs("MUTE by 9998 HEARD, held behind 9999", sheet(EdgeThoughtTest::mute9998, 8, 0, 99, 99), 0, 3, 3);
-    }
-
-    /** A MUTE with 9 who has HEARD 9998 words. */
-    private static void mute9998(StairCourt x) {
-        x.step(69);
-        for (int i = 0; i < 5; i++) {
-            x.person(9);
-        }
-        Due.text(x, 0, "0");
-        for (int i = 0; i < 66; i++) {
-            x.loose(30);
-        }
-        x.loose(19);
-        x.say(1, 0);
-        x.say(1, 0);
-        x.say(1, 0);
-        x.untell(0);
-        x.rests(0, 9);
+        climbs("MUTE by 9999 HEARD, held", sheet(heard(60, 9999), 8, 0, 0, 0), 0, 3, 3);
+        climbs("MUTE by 9998 HEARD", sheet(heard(69, 9998), 8, 99, 99), 1, 1, 0);
+        climbs("MUTE by 9998 HEARD, held behind 9999", sheet(heard(69, 9998), 8, 0, 99, 99), 0, 3, 3);
+        StairCourt x = made(Edge::fellOften);
+        x.sheet(0, 8, 10);
+        due("21 CLIMB: 9990 FALLS and 10, held, how many said", x.climb(0, 0, 1), 10);
+        due("21 CLIMB: 9990 FALLS and 10, held, how often one fell", x.climb(0, 0, 2), 10);
+        due("21 CLIMB: only thought", x.personIs(0, 3), 9990);
     }
 
     private static void promise22() {
@@ -194,6 +166,8 @@ public final class EdgeThoughtTest extends Edge {
         fewest("twenty judges by three WORDS", heeds(steps(20), "w%3=s%3"), 3, 0, 1, 2);
         fewest("the last three of twenty", heeds(with(steps(20), x -> x.carry(0, 17)), "w%20=s"), 3, 17, 18, 19);
         fewest("the largest three WORDS", heeds(steps(3), "w=97+s"), 3, 97, 98, 99);
+        fewest("fewer behind more", with(judges(31, 32, 33), x -> x.fewest(0, 0)).andThen(x -> x.carry(0, 2)), 1, 21, -1, -1);
+        fewest("none behind more", with(judges(31, 32, 33), x -> x.fewest(0, 0)).andThen(x -> x.carry(0, 3)), 0, -1, -1, -1);
         fewest("as things are now, HOUR 12", with(judges(40), x -> x.hours(12)), 1, 0, -1, -1);
     }
 

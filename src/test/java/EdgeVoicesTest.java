@@ -9,6 +9,7 @@ public final class EdgeVoicesTest extends Edge {
 
     public static void main(String[] args) {
         promise26();
+        promise26least();
         promise26parted();
         promise26traces();
         promise26wraps();
@@ -31,6 +32,19 @@ public final class EdgeVoicesTest extends Edge {
             gives("26 voice: any number, no ERROR " + v, judges(0), x -> x.voice(0, ASKS, v), v);
         }
         gives("26 voice: PARTED is no ERROR, where nothing parts", judges(5), x -> x.voice(0, PARTS, PARTED), PARTED / 5);
+    }
+
+    /** Each VOICE of each KIND at 0, by the first STEP and the least m. */
+    private static void promise26least() {
+        int[][] voices = {{0, 0, 0}, {-4, -8, -8}, {0, 0, 0}, {0, 0, 0}, {-12, -24, -24}, {0, -2, -2}, {9, 18, 18}};
+        for (int kind = 0; kind < 7; kind++) {
+            int km = 10 * kind;
+            for (int voice = ASKS; voice <= ECHOES; voice++) {
+                int sounded = voice;
+                gives("26 voice " + voice + " of KIND " + kind + ": 0, with k 0 and m 0", judges(km),
+                        x -> x.voice(0, sounded, 0), voices[kind][voice]);
+            }
+        }
     }
 
     /** A judge on STEP 3; k is 3. */

@@ -185,12 +185,18 @@ public final class JudgesTest extends Promise {
         due("falls stay", x.personIs(0, 3), 0);
     }
 
-    private static void promise10nods() {
+    /** A judge of each KIND with 4, the DEAF at noon. */
+    private static StairCourt noon() {
         StairCourt x = Due.court(4, 14, 24, 34, 44, 54, 64);
         x.hours(11);
         due("DEAF at hour 11", x.content(4, 22), 0);
         x.hours(1);
-        for (int w = 0; w < 100; w++) {
+        return x;
+    }
+
+    private static void promise10words(int from, int to) {
+        StairCourt x = noon();
+        for (int w = from; w < to; w++) {
             boolean plain = w >= 20;
             boolean strict = plain && w % 3 == 1;
             boolean mild = plain || w == 4 || w == 14;
@@ -202,6 +208,12 @@ public final class JudgesTest extends Promise {
             duty("CHILD", x.content(5, w), mild && w < 85);
             duty("MUTE", x.content(6, w), plain);
         }
+    }
+
+    private static void promise10nods() {
+        promise10words(0, 50);
+        promise10words(50, 100);
+        StairCourt x = noon();
         x.hours(11);
         due("DEAF at hour 23", x.content(4, 22), 1);
         x.hours(1);
